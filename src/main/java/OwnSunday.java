@@ -253,7 +253,13 @@ public final class OwnSunday {
         if (!isWork(w) || what < 0 || what >= changes.length) {
             return BAD;
         }
-        findChanges(w);
+        Arrays.fill(changes, NONE);
+        fillRota();
+        if (!everShort(w)) {
+            changes[0] = 0;
+        } else if (!findOneChange(w)) {
+            findTwoChanges(w);
+        }
         return changes[what];
     }
 
@@ -556,16 +562,6 @@ public final class OwnSunday {
     }
 
     // ---- other rests for a work
-
-    private void findChanges(int w) {
-        Arrays.fill(changes, NONE);
-        fillRota();
-        if (!everShort(w)) {
-            changes[0] = 0;
-        } else if (!findOneChange(w)) {
-            findTwoChanges(w);
-        }
-    }
 
     private boolean findOneChange(int w) {
         for (int i = 0; i < town.houses; i++) {

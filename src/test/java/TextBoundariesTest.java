@@ -527,6 +527,21 @@ public final class TextBoundariesTest {
         Due.fault(HOUSE + "m0,1,1;m0,1,", 16);
     }
 
+    /** Each kind of fault is one of its own ITEM: a wrong rest ahead of it and a fault behind it are no matter. */
+    static void eachFaultIsOfItsOwnItem() {
+        String[] faults = {"w1,7;", "w13,7;", "w7,1;", "w7,13;", "w7;", "h2,0,0,0;", "h99,0,0,0;", "h0,0,32,0;",
+            "h0,0,0,4;", "h0,0,0;", "n1;", "n0,0;", "m5,1,1;", "m0,0,1;", "m0,10,1;", "m0,1,0;", "m0,1,10;", "m0,1;",
+            "c1;", "c;", "x0;", ";", "w7,9", "h0,0,0,0", "m0,1,1", "n0", "c0"};
+        for (String fault : faults) {
+            Due.fault("h0,7,0,0;" + fault + "x", 9);
+            Due.fault(HOUSE + fault + "w1,1;", 9);
+            Due.fault("w7,9;h0,12,0,0;c0;" + fault, 18);
+        }
+        Due.fault("h0,7,0,0;n0;n0;x", 12);
+        Due.fault("h0,7,0,0;" + HOUSE.repeat(3) + "n0;n1;n2;n3;x", 45);
+        Due.fault("h0,7,0,0;" + WORK.repeat(7) + "x", 51);
+    }
+
     /** The last place a text has: 399. */
     static void theFaultMayBeOfTheLastByte() {
         String most = HOUSE + "c0;".repeat(130);

@@ -337,6 +337,25 @@ public final class TownBoundariesTest {
         due("count(4): more may be SEEN", x.count(4), 3);
     }
 
+    /** "what was SEEN": the day, the WORK and whether it went on, of what is told in its place in between, too. */
+    static void ofWhatWasSeenAllIsKept() {
+        // Work 0 goes on by house 0 alone, work 1 by house 1: one that did not tells whose rest it was.
+        OwnSunday x = Due.laid("w5,5;h0,0,1,0;h0,0,2,0;n0;n1;m0,1,1;m1,1,1;");
+        x.seen(3, 1, false);
+        String was = Due.stateOf(x);
+        x.keep();
+        long[][] others = {{4, 1, 0}, {3, 0, 0}, {3, 1, 1}, {4, 0, 1}};
+        for (long[] other : others) {
+            x.forget();
+            x.seen(other[0], (int) other[1], other[2] == 1);
+            due("back()", x.back(), 0);
+            Due.due("what was kept", Due.stateOf(x), was);
+            due("fits(0, true)", x.fits(0, true), 31);
+            due("fits(1, true)", x.fits(1, true), 8);
+            due("keep()", x.keep(), 1);
+        }
+    }
+
     /** All twenty that were SEEN are kept, and none of them beside what comes in between. */
     static void twentySeenAreKept() {
         OwnSunday x = Due.laid("w12,12;h0,0,1,0;n0;m0,1,1;");
